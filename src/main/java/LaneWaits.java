@@ -366,7 +366,7 @@ public final class LaneWaits {
         for (int round = 0; round < lanes && left != 0; round++) {
             int before = left;
             for (int c = 0; c < lanes; c++) {
-                if (has(left, c) && (next[c] & left) == 0) left &= ~(1 << c);
+                if ((left & 1 << c) != 0 && (next[c] & left) == 0) left &= ~(1 << c);
             }
             if (left == before) return left;
         }
@@ -825,8 +825,7 @@ public final class LaneWaits {
             int fewest = Integer.bitCount(allOfThem);
             for (int set = 1; set < allOfThem; set++) {
                 int size = Integer.bitCount(set);
-                boolean better = size < fewest || size == fewest && set < least;
-                if (better && (set & ~allOfThem) == 0 && stands(set)) {
+                if (size < fewest && (set & ~allOfThem) == 0 && stands(set)) {
                     least = set;
                     fewest = size;
                 }

@@ -25,7 +25,10 @@ public final class OracleTest {
         int runs = args.length > 0 ? Integer.parseInt(args[0]) : 1500;
         long from = args.length > 1 ? Long.parseLong(args[1]) : 1;
         Due due = new Due("OracleTest");
-        for (long seed = from; seed < from + runs && due.wrong() == 0; seed++) new OracleTest(seed, due).go();
+        for (long seed = from; seed < from + runs && due.wrong() == 0; seed++) {
+            new OracleTest(seed, due).go();
+            new OracleTest(-seed, due).goBarred();
+        }
         due.end();
     }
 
@@ -36,12 +39,40 @@ public final class OracleTest {
             else if (pick < 9) lookAtAll();
             else if (pick < 20) sheets();
             else some();
-            if (due.wrong() > 0) {
-                System.out.println(run + " " + m);
-                for (String call : log) System.out.println("  " + call);
-                return;
-            }
+            if (due.wrong() > 0) break;
         }
+        tellLog();
+    }
+
+    /** Lanes beside each other, FIRST and many bars: what is come into by turns alone shows here. */
+    private void goBarred() {
+        int nodes = 3 + below(3);
+        StringBuilder s = new StringBuilder("n" + nodes);
+        int lanes = nodes + below(11 - nodes);
+        for (int c = 0; c < lanes; c++) {
+            int a = below(nodes);
+            s.append(';').append(a).append('>').append((a + 1 + (below(3) == 0 ? below(nodes - 1) : 0)) % nodes);
+        }
+        log.add("text " + s);
+        Due.take(x, s.toString());
+        m.take(s.toString());
+        log.add("rule 1");
+        same("rule", x.rule(1), m.rule(1));
+        for (int k = 0; k < 40; k++) {
+            int c = below(lanes), d = below(lanes);
+            if (m.lanes.get(c).to() != m.lanes.get(d).from() || below(3) == 0) continue;
+            log.add("bar " + c + " " + d);
+            same("bar", x.bar(c, d, 1), m.bar(c, d, 1));
+            if (below(4) == 0) lookAtAll();
+        }
+        for (int what = 0; what < 3; what++) same("states " + what, x.states(what), m.states(what));
+        tellLog();
+    }
+
+    private void tellLog() {
+        if (due.wrong() == 0) return;
+        System.out.println(run + " " + m);
+        for (String call : log) System.out.println("  " + call);
     }
 
     private void same(String call, long got, long want) {

@@ -364,6 +364,14 @@ public final class PromiseTest {
         is("12 last", z.ring(3), 1);
         z.bar(0, 2, 1);
         is("12 by the other", z.ring(1), 4);
+        // By 4 there is a longer way back to 0 beside the ring.
+        LaneWaits w = Due.of("n5;0>1;1>2;2>3;3>0;3>4;4>0");
+        w.rule(2);
+        is("12 the shorter way", w.ring(-1), 4);
+        for (int k = 0; k < 4; k++) is("12 its row", w.ring(k), k);
+        w.bar(2, 3, 1);
+        int[] round = {5, 0, 1, 2, 4, 5, NONE};
+        for (int k = -1; k < 6; k++) is("12 the way round", w.ring(k), round[k + 1]);
         is("12 k", x.ring(-2), UNKNOWN);
         is("12 k", x.ring(10), UNKNOWN);
         is("12 no net", new LaneWaits().ring(0), STATE);
@@ -433,6 +441,23 @@ public final class PromiseTest {
         is("15 any", z.states(0), 81);
         is("15 any, dead", z.states(1), 1);
         is("15 any, steps", z.states(2), 4);
+        // By the bar lane 2 is come into from lane 3 alone; 1, 1, 1 and 2 nodes are carried.
+        LaneWaits w = Due.of("n3;0>1;1>0;1>0;2>1");
+        w.rule(1);
+        is("15 not into lane 2", w.states(0), 2 * 2 * 3);
+        w.bar(3, 1, 1);
+        is("15 going on", w.states(0), 2 * 2 * 2 * 3);
+        // The same with the lanes turned round: it goes on into lane 0.
+        LaneWaits v = Due.of("n3;1>0;2>1;0>1;1>0");
+        v.rule(1);
+        v.bar(1, 0, 1);
+        is("15 going on into the last", v.states(0), 2 * 3 * 2 * 2);
+        // Lane 1 is come into from lane 0 alone, and stuck there: two steps.
+        LaneWaits u = Due.of("n4;3>0;0>1;0>1;1>2");
+        u.rule(1);
+        u.bar(2, 3, 1);
+        u.bar(0, 1, 1);
+        is("15 stuck by going on", u.states(2), 2);
         is("15 five nodes", Due.of("n5;0>1").states(0), STATE);
         is("15 seven lanes", Due.of("n2;0>1;0>1;0>1;0>1;0>1;0>1;0>1").states(0), STATE);
         is("15 six lanes", Due.of("n4;0>1;0>1;0>1;0>1;0>1;0>1").states(0), 64);
@@ -818,6 +843,12 @@ public final class PromiseTest {
             is("27 fault", x.fault(), c[6]);
         }
         is("27 stays", x.cell(1, 0, 1), 12);
+        x.copy(0, 9, 1, 0, 1);
+        is("27 unknown", x.copy(9, 9, 1, 0, 1), UNKNOWN);
+        is("27 refused", x.fault(), 0);
+        x.copy(0, 9, 1, 0, 1);
+        x.copy(0, 0, 1, 0, 1);
+        is("27 no fault", x.fault(), 0);
     }
 
     private void p28() {
