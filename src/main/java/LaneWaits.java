@@ -618,7 +618,7 @@ public final class LaneWaits {
 
         private int ruled(int x, int y, int without) {
             int set = (rule == ANY ? net.leading[x][y] : net.nearer[x][y]) & ~without;
-            return rule == FIRST ? Integer.lowestOneBit(set) : set;
+            return rule == FIRST ? set & -set : set;
         }
     }
 
