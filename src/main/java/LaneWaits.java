@@ -916,8 +916,9 @@ public final class LaneWaits {
 
         private void visitAll(int step) {
             for (int word = 0; word < WORDS; word++) {
-                for (int bits = now[word]; bits != 0; bits &= bits - 1) {
-                    visit(word * 32 + Integer.numberOfTrailingZeros(bits), step);
+                if (now[word] == 0) continue;
+                for (int bit = 0; bit < 32; bit++) {
+                    if (has(now[word], bit)) visit(word * 32 + bit, step);
                 }
             }
         }

@@ -23,6 +23,8 @@ public final class EdgeWaysTest {
         deadSetOfSome(); deadNone(); deadSteps(); statesKeptAnew();
         mendNone(); mendOne(); mendTwo(); mendNotWithTwo(); mendFirstRow(); mendNeedsComing(); mendBarsNothing();
         bearsSo(); bearsWhole(); bearsLeastTerms(); bearsNothing(); bearsGreat(); busiestLeast(); busiestSo();
+        stillLeastOfLaneZero(); ringThatBranches(); statesFromLaneToLane(); busiestByUnlikeShares();
+        newNetAsOfANewObject(); newRuleAsOfANewObject(); otherTurnsAsOfANewObject();
         DUE.end();
     }
 
@@ -574,5 +576,157 @@ public final class EdgeWaysTest {
         is("22 so", x.busiest(), 0);
         x.bar(0, 2, 1);
         is("22 no more", x.busiest(), STATE);
+    }
+
+    private static void stillLeastOfLaneZero() {
+        LaneWaits x = Due.of(RING);
+        x.bar(0, 1, 1);
+        is("14 all: the ring that waits for the stuck one", x.still(0), 7);
+        is("14 the least as a number of all there are", x.still(1), 1);
+    }
+
+    private static void ringThatBranches() {
+        LaneWaits x = Due.of("n4;2>3;1>2;3>0;0>1;3>0");
+        int[] row = {0, 2, 3, 1};
+        is("12 a ring of four", x.ring(-1), 4);
+        for (int k = 0; k < 4; k++) is("12 its " + k, x.ring(k), row[k]);
+        is("12 NONE behind the last", x.ring(4), NONE);
+        LaneWaits y = Due.of("n5;0>1;1>2;2>3;3>0;3>4;4>0");
+        is("12 the short one of two that share lanes", y.ring(-1), 4);
+        for (int k = 0; k < 4; k++) is("12 shared: " + k, y.ring(k), k);
+        y.bar(2, 3, 1);
+        is("12 the long one, where the short one is BARRED", y.ring(-1), 0);
+        y.rule(ANY);
+        int[] around = {0, 1, 2, 4, 5};
+        is("12 by ANY there is a way round", y.ring(-1), 5);
+        for (int k = 0; k < 5; k++) is("12 around: " + k, y.ring(k), around[k]);
+    }
+
+    private static void statesFromLaneToLane() {
+        LaneWaits x = of("n3;0>1;1>0;1>0;2>1", FIRST);
+        is("4 none goes into the third lane", x.states(0), 12);
+        x.bar(3, 1, 1);
+        is("4 one goes on into it from LANE to LANE", x.states(0), 24);
+        LaneWaits y = of("n3;1>0;2>1;0>1;1>0", FIRST);
+        y.bar(1, 0, 1);
+        is("4 into the last lane", y.states(0), 24);
+        LaneWaits z = of("n4;3>0;0>1;0>1;1>2", FIRST);
+        z.bar(2, 3, 1);
+        z.bar(0, 1, 1);
+        is("4 STEPS: it sets out, then it goes on", z.states(2), 2);
+    }
+
+    private static void busiestByUnlikeShares() {
+        is("22 lane 1 of two", Due.of("n3;0>1;1>0;1>2;2>1").busiest(), 0);
+        is("22 lane 1 bears the most", Due.of("n4;2>0;0>1;1>2;1>3;3>0").busiest(), 1);
+    }
+
+    /** Nets that have more and fewer nodes, lanes, ways, so that nothing of one fits another. */
+    private static final String[] NETS = {
+        ROUND, "n2;0>1", LONG_LINE, "n3;0>1;0>1;0>1;1>2;2>0", RING, "n4;0>1;1>2;2>3;3>0;0>2;1>3",
+        "n3;1>2;1>2;0>1;0>1;2>0", "n4;0>2;0>1;1>3;2>1", LINE, "n4;3>0;0>1;0>1;1>2",
+    };
+
+    private static void newNetAsOfANewObject() {
+        for (int rule = 0; rule <= 2; rule++) {
+            for (String before : NETS) {
+                for (String text : NETS) {
+                    LaneWaits x = of(before, rule);
+                    workAll(x);
+                    x.bar(0, firstTurn(x, 0), 1);
+                    Due.take(x, text);
+                    alike("1 a TEXT that is taken makes all anew: " + before + " then " + text, x, of(text, rule));
+                }
+            }
+        }
+    }
+
+    private static void newRuleAsOfANewObject() {
+        for (String text : NETS) {
+            for (int rule = 0; rule <= 2; rule++) {
+                for (int then = 0; then <= 2; then++) {
+                    LaneWaits x = of(text, rule);
+                    workAll(x);
+                    x.rule(then);
+                    alike("5 RULE " + rule + " becomes " + then + ": " + text, x, of(text, then));
+                }
+            }
+        }
+    }
+
+    private static void otherTurnsAsOfANewObject() {
+        for (String text : NETS) {
+            for (int rule = 0; rule <= 2; rule++) {
+                int lanes = of(text, rule).many(1);
+                for (int c = 0; c < lanes; c++) turnAsOfANewObject(text, rule, c);
+            }
+        }
+    }
+
+    private static void turnAsOfANewObject(String text, int rule, int c) {
+        LaneWaits x = of(text, rule);
+        int d = firstTurn(x, c);
+        if (d == NONE) return;
+        workAll(x);
+        LaneWaits barred = of(text, rule);
+        is("6 it was not", x.bar(c, d, 1), 0);
+        barred.bar(c, d, 1);
+        alike("6 the TURN becomes BARRED: " + text + " " + c + ", " + d, x, barred);
+        LaneWaits y = of(text, rule);
+        y.bar(c, d, 1);
+        workAll(y);
+        is("6 it was", y.bar(c, d, 0), 1);
+        alike("6 the TURN becomes free: " + text + " " + c + ", " + d, y, of(text, rule));
+    }
+
+    /** Lets the object find all that it may keep. */
+    private static void workAll(LaneWaits x) {
+        x.comes(0, 1);
+        x.carries(0);
+        x.ring(-1);
+        x.rank(0);
+        x.still(0);
+        x.states(0);
+        x.mend(-1);
+        x.busiest();
+    }
+
+    private static int firstTurn(LaneWaits x, int c) {
+        for (int d = 0; d < x.many(1); d++) if (x.ofLane(d, 0) == x.ofLane(c, 1)) return d;
+        return NONE;
+    }
+
+    private static void alike(String sentence, LaneWaits used, LaneWaits fresh) {
+        long[] got = answers(used);
+        long[] want = answers(fresh);
+        for (int k = 0; k < got.length; k++) is(sentence + ": answer " + k, got[k], want[k]);
+    }
+
+    /** What changes nothing, of an object that was asked some hundred calls before at the most. */
+    private static long[] answers(LaneWaits x) {
+        long[] row = new long[300];
+        int k = 0;
+        for (int what = 0; what <= 5; what++) row[k++] = x.many(what);
+        for (int what = 0; what <= 2; what++) row[k++] = x.states(what);
+        for (int what = 0; what <= 1; what++) row[k++] = x.still(what);
+        for (int turn = -1; turn <= 1; turn++) row[k++] = x.mend(turn);
+        for (int at = -1; at <= 9; at++) row[k++] = x.ring(at);
+        for (int a = 0; a < 6; a++) {
+            for (int b = 0; b < 6; b++) {
+                row[k++] = x.far(a, b);
+                row[k++] = x.out(a, b);
+                row[k++] = x.comes(a, b);
+            }
+        }
+        for (int c = 0; c < 10; c++) {
+            row[k++] = x.carries(c);
+            row[k++] = x.waits(c);
+            row[k++] = x.rank(c);
+            row[k++] = x.bears(c, 0);
+            row[k++] = x.bears(c, 1);
+            for (int y = 0; y < 6; y++) row[k++] = x.may(c, y);
+        }
+        row[k++] = x.busiest();
+        return row;
     }
 }
