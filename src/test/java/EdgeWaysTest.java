@@ -21,9 +21,9 @@ public final class EdgeWaysTest {
         stillNone(); stillNothingToTake(); stillAll(); stillLeast(); stillLeastNumber(); stillSomeNode();
         statesAtMostFourNodes(); statesAtMostSixLanes(); statesOneCell(); statesEmptyOne(); deadByNothing(); deadNotAtItsNode();
         deadSetOfSome(); deadNone(); deadSteps(); statesKeptAnew();
-        mendNone(); mendOne(); mendTwo(); mendNotWithTwo(); mendFirstRow(); mendNeedsComing(); mendBarsNothing();
+        mendNone(); mendOne(); mendTwo(); mendNotWithTwo(); mendFirstRow(); mendBehindTheFirstTurn(); mendManyTurns(); mendNeedsComing(); mendBarsNothing();
         bearsSo(); bearsWhole(); bearsLeastTerms(); bearsNothing(); bearsGreat(); busiestLeast(); busiestSo();
-        stillLeastOfLaneZero(); ringThatBranches(); statesFromLaneToLane(); busiestByUnlikeShares();
+        stillLeastOfLaneZero(); ringThatBranches(); statesFromLaneToLane(); statesAllForTheLastNode(); comesInANewNet(); busiestByUnlikeShares();
         newNetAsOfANewObject(); newRuleAsOfANewObject(); otherTurnsAsOfANewObject();
         DUE.end();
     }
@@ -487,6 +487,25 @@ public final class EdgeWaysTest {
         }
     }
 
+    private static void mendBehindTheFirstTurn() {
+        LaneWaits x = of("n5;4>3;3>0;0>4;2>3;1>2;0>4;2>3;3>1", FIRST);
+        is("11 the first TURN that is waited for", x.waits(0) & 2, 2);
+        is("6 two, but not with that one", x.mend(-1), 2);
+        is("6 the first of them", x.mend(0), 12);
+        is("6 the second of them", x.mend(1), 43);
+        x.bar(1, 2, 1);
+        x.bar(4, 3, 1);
+        is("6 with them BARRED all is well", x.mend(-1), 0);
+    }
+
+    private static void mendManyTurns() {
+        LaneWaits x = Due.of("n3;0>1;0>1;0>1;1>2;1>2;1>2;2>0;2>0;2>0;2>0");
+        int turns = 0;
+        for (int c = 0; c < 10; c++) turns += Integer.bitCount(x.waits(c));
+        is("6 three times three, three times four, four times three", turns, 33);
+        is("6 NONE of so many", x.mend(-1), NONE);
+    }
+
     private static void mendFirstRow() {
         LaneWaits x = of("n5;4>0;1>3;2>3;4>2;0>1;3>4;2>3;3>4;0>1", FIRST);
         // 0 to 4 with 2 to 5, or with 3 to 2.
@@ -600,6 +619,26 @@ public final class EdgeWaysTest {
         int[] around = {0, 1, 2, 4, 5};
         is("12 by ANY there is a way round", y.ring(-1), 5);
         for (int k = 0; k < 5; k++) is("12 around: " + k, y.ring(k), around[k]);
+        // From lane 3 there is a way to lane 0 at once, and one by lanes 4 and 5.
+        LaneWaits z = of("n5;0>1;1>2;2>3;3>0;0>4;4>0", ANY);
+        is("12 to and fro", z.ring(-1), 2);
+        z.bar(5, 4, 1);
+        is("12 with a way about beside it", z.ring(-1), 4);
+        for (int k = 0; k < 4; k++) is("12 beside a way about: " + k, z.ring(k), k);
+    }
+
+    private static void statesAllForTheLastNode() {
+        LaneWaits x = Due.of("n4;0>3;1>3;2>3;0>3;1>3;2>3");
+        is("4 in each of six LANES one for the last of four NODES, or none", x.states(0), 64);
+        is("4 none is DEAD, each is at its NODE", x.states(1), 0);
+    }
+
+    private static void comesInANewNet() {
+        LaneWaits x = Due.of("n3;0>2;1>2");
+        is("9 lane 0 leads there", x.comes(0, 2), 2);
+        Due.take(x, "n3;0>1;1>2");
+        x.bar(0, 1, 1);
+        is("9 in the new NET it does not", x.comes(0, 2), 0);
     }
 
     private static void statesFromLaneToLane() {
@@ -619,6 +658,15 @@ public final class EdgeWaysTest {
     private static void busiestByUnlikeShares() {
         is("22 lane 1 of two", Due.of("n3;0>1;1>0;1>2;2>1").busiest(), 0);
         is("22 lane 1 bears the most", Due.of("n4;2>0;0>1;1>2;1>3;3>0").busiest(), 1);
+        // One half, three halves (twice), two thirds, one.
+        LaneWaits x = Due.of("n3;2>1;1>2;2>1;0>1;0>1;2>0;2>0;0>1;1>2");
+        is("22 one half: upper", x.bears(0, 0), 1);
+        is("22 one half: lower", x.bears(0, 1), 2);
+        is("22 three halves: upper", x.bears(1, 0), 3);
+        is("22 three halves: lower", x.bears(1, 1), 2);
+        is("22 two thirds: upper", x.bears(3, 0), 2);
+        is("22 two thirds: lower", x.bears(3, 1), 3);
+        is("22 of shares with the same lower number the greater one", x.busiest(), 1);
     }
 
     /** Nets that have more and fewer nodes, lanes, ways, so that nothing of one fits another. */

@@ -73,7 +73,7 @@ public final class FormTest {
         int many(int)
         """;
     private static final Set<String> LIBRARY = Set.of("java.util.Arrays.fill", "java.lang.System.arraycopy",
-        "java.lang.Integer.bitCount", "java.lang.Integer.lowestOneBit", "java.lang.Integer.numberOfTrailingZeros",
+        "java.lang.Integer.bitCount", "java.lang.Integer.lowestOneBit",
         "java.lang.Math.abs", "java.lang.Math.max", "java.lang.Object.super");
 
     private static final Due DUE = new Due("FormTest");
