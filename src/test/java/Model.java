@@ -174,7 +174,8 @@ final class Model {
         long answer = machine(() -> {
             Object row = castRow(sheets[sheet], sort);
             int size = length(row);
-            int[] codes = new int[n];
+            // No row has more than 60 cells, so the loop ends before these do.
+            int[] codes = new int[Math.min(n, 61)];
             if (i < 0 || i > size) throw new IndexOutOfBoundsException();
             for (int k = 0; k < n; k++) codes[k] = (int) get(row, i + k);
             for (int code : codes) text.append(code >= 0 && code < 128 ? (char) code : '\uffff');
